@@ -1488,12 +1488,13 @@ public final class CallerHall {
         /** Who stands in a copy, if it fits some dancers; else 0. */
         private long membersOf(Floor floor, int form, int copy, int dancer, long some) {
             int turn = copy & 3;
-            int base = form * MOST_SLOTS * 4 + turn;
-            int left = floor.x[dancer] - book.slotX[base + copy - turn];
-            int low = floor.y[dancer] - book.slotY[base + copy - turn];
+            int base = form * MOST_SLOTS * 4;
+            int left = floor.x[dancer] - book.slotX[base + copy];
+            int low = floor.y[dancer] - book.slotY[base + copy];
             long found = 0;
             for (int slot = 0; slot < book.slots[form]; slot++) {
-                int who = floor.whoIsAt(left + book.slotX[base + 4 * slot], low + book.slotY[base + 4 * slot]);
+                int own = base + 4 * slot + turn;
+                int who = floor.whoIsAt(left + book.slotX[own], low + book.slotY[own]);
                 if (who < 0 || (some >>> who & 1) == 0) {
                     return 0;
                 }
@@ -1546,10 +1547,10 @@ public final class CallerHall {
 
         /** Who is at a slot's place of a copy for a dancer. */
         int whoIsIn(Floor floor, int form, int copy, int dancer, int slot) {
-            int turn = copy & 3;
-            int base = form * MOST_SLOTS * 4 + turn;
-            return floor.whoIsAt(floor.x[dancer] - book.slotX[base + copy - turn] + book.slotX[base + 4 * slot],
-                floor.y[dancer] - book.slotY[base + copy - turn] + book.slotY[base + 4 * slot]);
+            int base = form * MOST_SLOTS * 4;
+            int own = base + 4 * slot + (copy & 3);
+            return floor.whoIsAt(floor.x[dancer] - book.slotX[base + copy] + book.slotX[own],
+                floor.y[dancer] - book.slotY[base + copy] + book.slotY[own]);
         }
 
         /** Those in one slot of the greedy copies that were found; in any one, if it is NONE. */
@@ -1885,7 +1886,7 @@ public final class CallerHall {
         int place;
         long scope;
         /** Scopes, places to return to, and how many times are left. */
-        long[] open = new long[MOST_OPEN];
+        final long[] open = new long[MOST_OPEN];
         int depth;
         private int acts;
         private boolean limited;

@@ -1,0 +1,114 @@
+import java.nio.charset.StandardCharsets;
+
+/** What the tests share: a hall with texts instead of bytes, and the count of wrong answers. */
+final class Dance {
+    /** Forms and figures that most tests use. */
+    static final String BOOK = "form any1 = 0 0 any; form face = 0 0 n, 0 4 s;\n"
+        + "form box = 0 0 any, 4 0 any, 0 4 any, 4 4 any; form pair = 0 0 n lark, 4 0 n robin;\n"
+        + "form duo = 0 0 any, 4 0 any;\n"
+        + "figure turn on any1 counts 2 price 1 = 0 0 2; figure right on any1 counts 1 price 1 = 0 0 1;\n"
+        + "figure pass on face counts 4 price 2 = 0 4 0, 0 0 0;\n"
+        + "figure circle on box counts 8 price 3 = 0 4 1, 0 0 1, 4 4 1, 4 0 1;\n"
+        + "figure star on box counts 8 price 3 = 4 4 2, 0 4 2, 4 0 2, 0 0 2;\n"
+        + "figure trade on pair counts 4 price 2 = 4 0 2, 0 0 2;\n"
+        + "figure forward on pair counts 2 price 1 = 0 4 0, 4 4 0;\n"
+        + "figure cross on duo counts 3 price 1 = 4 0 0, 0 0 0; figure hold on any1 counts 0 price 0 = 0 0 0;\n"
+        + "figure meet on any1 counts 1 price 7 = 4 0 0; figure left on any1 counts 1 price 1 = 0 0 -1;";
+
+    private static int wrong;
+    private static int asked;
+
+    final CallerHall hall = new CallerHall();
+
+    private Dance() {
+    }
+
+    static Dance empty() {
+        return new Dance();
+    }
+
+    /** A hall that has read BOOK. */
+    static Dance ready() {
+        Dance dance = new Dance();
+        due("load of BOOK", dance.load(BOOK), 0);
+        return dance;
+    }
+
+    static void due(String what, long got, long want) {
+        asked++;
+        if (got != want) {
+            wrong++;
+            System.out.println(what + " answered " + got + ", due is " + want);
+        }
+    }
+
+    static void due(String what, boolean got, boolean want) {
+        due(what, got ? 1 : 0, want ? 1 : 0);
+    }
+
+    static void finish(String test) {
+        System.out.println(test + ": " + asked + " answers, " + wrong + " wrong");
+        if (wrong != 0) {
+            System.exit(1);
+        }
+    }
+
+    /** Feeds a text, and cuts off the bytes that only fill the last twenty. */
+    void write(String text) {
+        byte[] bytes = text.getBytes(StandardCharsets.ISO_8859_1);
+        int before = hall.about(12);
+        for (int i = 0; i < bytes.length; i += 20) {
+            int[] five = new int[5];
+            for (int k = 0; k < 20; k++) {
+                int one = i + k < bytes.length ? bytes[i + k] & 255 : 0;
+                five[k / 4] = five[k / 4] << 8 | one;
+            }
+            due("feed", hall.feed(five[0], five[1], five[2], five[3], five[4]), true);
+        }
+        due("end", hall.end(before + bytes.length), true);
+    }
+
+    int load(String text) {
+        write(text);
+        return hall.load();
+    }
+
+    int call(String text) {
+        write(text);
+        return hall.call();
+    }
+
+    int named(String text, int sort) {
+        write(text);
+        return hall.named(sort);
+    }
+
+    /** A text that is at fault, at a place. */
+    void dueFault(String text, int place, int fault) {
+        due("load of " + text, load(text), -2 - place);
+        due("fault of " + text, hall.fault(), fault);
+    }
+
+    /** A step that is at fault, at a place. */
+    void dueCallFault(String text, int place, int fault) {
+        due("call of " + text, call(text), -2 - place);
+        due("fault of " + text, hall.fault(), fault);
+    }
+
+    void dueDancer(int d, int x, int y, int facing, int turned) {
+        due("X of " + d, hall.dancer(d, 0), x);
+        due("Y of " + d, hall.dancer(d, 1), y);
+        due("facing of " + d, hall.dancer(d, 2), facing);
+        due("turned of " + d, hall.dancer(d, 3), turned);
+    }
+
+    void dueFailed(int why, int who, int other) {
+        due("failed(0)", hall.failed(0), why);
+        due("failed(1)", hall.failed(1), who);
+        due("failed(2)", hall.failed(2), other);
+    }
+
+    static String many(String text, int times) {
+        return text.repeat(times);
+    }
+}
