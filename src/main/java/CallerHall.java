@@ -399,16 +399,16 @@ public final class CallerHall {
         private static final int MOST_LETTERS = 24;
         private static final int MOST_DIGITS = 5;
 
-        final byte[] tape = new byte[TAPE_BYTES];
+        private final byte[] tape = new byte[TAPE_BYTES];
         int bytes;
         private final long[] keywords = new long[KEYWORDS];
         /** A token takes a byte at least; the text's end and one that is none may come behind. */
-        private final int[] kinds = new int[TAPE_BYTES + 2];
-        private final int[] values = new int[TAPE_BYTES + 2];
+        final int[] kinds = new int[TAPE_BYTES + 2];
+        final int[] values = new int[TAPE_BYTES + 2];
         private final int[] starts = new int[TAPE_BYTES + 2];
         /** Of each word, in three numbers. */
         final long[] letters = new long[3 * (TAPE_BYTES + 2)];
-        private int count;
+        int count;
 
         Tokens() {
             int word = 0;
@@ -457,14 +457,6 @@ public final class CallerHall {
             }
             put(TEXT_END, 0, bytes);
             bytes = 0;
-        }
-
-        int kindOf(int i) {
-            return i >= 0 && i < count ? kinds[i] : TEXT_END;
-        }
-
-        int valueOf(int i) {
-            return i >= 0 && i < count ? values[i] : 0;
         }
 
         int startOf(int i) {
@@ -749,6 +741,7 @@ public final class CallerHall {
         /** The token at hand: its number, and what it is. */
         private int next;
         private int kind;
+        private int value;
         int wrongBy;
         private int nested;
         /** Whether the tokens taken now are those of a part or an allowed step. */
@@ -822,7 +815,8 @@ public final class CallerHall {
 
         private void startText() {
             next = 0;
-            kind = tokens.kindOf(0);
+            kind = tokens.kinds[0];
+            value = tokens.values[0];
             wrongBy = 0;
             nested = 0;
             counted = false;
@@ -859,7 +853,9 @@ public final class CallerHall {
             }
             book.tokens += counted ? 1 : 0;
             next++;
-            kind = tokens.kindOf(next);
+            boolean more = next < tokens.count;
+            kind = more ? tokens.kinds[next] : Tokens.TEXT_END;
+            value = more ? tokens.values[next] : 0;
             return true;
         }
 
@@ -872,7 +868,7 @@ public final class CallerHall {
             if (kind != Tokens.NUMBER) {
                 return 1;
             }
-            number = tokens.valueOf(next);
+            number = value;
             return number < least || number > most ? 4 : 0;
         }
 
@@ -1295,24 +1291,24 @@ public final class CallerHall {
             if (!pass()) {
                 return false;
             }
-            int value = 0;
+            int meant = 0;
             boolean good = true;
             if (word == Tokens.COUPLE || word == Tokens.DANCER) {
                 good = takeNumber(0, word == Tokens.COUPLE ? 31 : 63);
-                value = number;
+                meant = number;
             } else if (word == Tokens.FACING) {
-                value = kind - Tokens.UP;
+                meant = kind - Tokens.UP;
                 good = kind >= Tokens.UP && kind <= Tokens.LEFT ? pass() : wrong(1);
             } else if (word == Tokens.IN || word == Tokens.AT) {
                 looks++;
                 good = takeKnown(book.forms);
-                value = index;
+                meant = index;
             }
             if (good && word == Tokens.AT) {
-                good = takeNumber(0, book.slots[value] - 1);
-                value = value * MOST_SLOTS + number;
+                good = takeNumber(0, book.slots[meant] - 1);
+                meant = meant * MOST_SLOTS + number;
             }
-            book.put(Book.ALL + word - Tokens.ALL, value);
+            book.put(Book.ALL + word - Tokens.ALL, meant);
             return good;
         }
     }
