@@ -207,6 +207,8 @@ public final class RunTest {
         Dance.due("fails", d.hall.step(), 2);
         d.dueFailed(5, 0, 1);
         Dance.due("no run", d.hall.about(10), 0);
+        Dance.due("back(0)", d.hall.back(0), true);
+        Dance.due("still no run", d.hall.about(10), 0);
         Dance.due("steps", d.hall.about(2), 2);
         Dance.due("history", d.hall.about(3), 2);
         d.dueDancer(0, 4, 0, 0, 0);
@@ -300,6 +302,8 @@ public final class RunTest {
         Dance.due("steps", d.hall.about(2), 205);
         Dance.due("back(201)", d.hall.back(201), false);
         Dance.due("a step that fails takes none away", d.call("dancer 0 meet"), 5);
+        Dance.due("back(0)", d.hall.back(0), true);
+        Dance.due("steps", d.hall.about(2), 205);
         Dance.due("back(200)", d.hall.back(200), true);
         Dance.due("steps", d.hall.about(2), 5);
         Dance.due("beats", d.hall.about(1), 5);

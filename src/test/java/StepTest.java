@@ -45,6 +45,9 @@ public final class StepTest {
         Dance d = Dance.ready();
         d.load("figure shift on any1 counts 1 price 1 = 1 0 0; figure far on any1 counts 1 price 1 = -32 32 8;");
         Dance.due("shift", d.call("dancer 0 shift"), 0);
+        Dance.due("nobody where 0 was", d.hall.at(4, 0), -1);
+        Dance.due("who is where 0 is", d.hall.at(8, 0), 0);
+        Dance.due("who is where 1 is", d.hall.at(12, 0), 1);
         d.dueDancer(0, 8, 0, 0, 0);
         d.dueDancer(1, 12, 0, 0, 0);
         d.dueDancer(2, 16, 4, 3, 0);
@@ -222,6 +225,13 @@ public final class StepTest {
         d.load("form down = 0 0 any, 0 -4 any lark; figure g on down counts 1 price 1 = 0 0 1, 0 -4 1;"
             + " form rise = 0 4 any lark, 0 0 any; figure h on rise counts 1 price 1 = 0 4 1, 0 0 1;"
             + " part p { if forms down not couple 0 { all turn; } all hold; }");
+        d.load("form over = 0 0 any, 0 4 any lark; figure k on over counts 1 price 1 = 0 0 1, 0 4 1;");
+        Dance.due("set", d.hall.set(1, 19), true);
+        Dance.due("a partition behind exactly 400 copies", d.call("not couple 1 k"), 0);
+        d.dueDancer(0, 0, 0, 2, 1);
+        Dance.due("set", d.hall.set(1, 22), true);
+        Dance.due("with two larks more it is 401", d.call("not (couple 1 or couple 19 or dancer 41 or dancer 43) k"), 4);
+        d.dueFailed(4, 0, -1);
         Dance.due("set", d.hall.set(1, 20), true);
         Dance.due("a partition behind 402 copies", d.call("not couple 0 g"), 4);
         d.dueFailed(4, 2, -1);

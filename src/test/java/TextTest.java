@@ -6,6 +6,7 @@ public final class TextTest {
         forms();
         figures();
         names();
+        longNames();
         statements();
         who();
         conditions();
@@ -44,6 +45,8 @@ public final class TextTest {
     private static void tokens() {
         Dance d = Dance.ready();
         Dance.due("an empty book", d.load(""), 0);
+        Dance.due("each of the four blanks", d.load("form\tblank1\n=\r0 0 n;\n\n\nform\nblank2 = 0\n0 n;"), 0);
+        d.dueFault("form\u000bf = 0 0 n;", 4, 1);
         Dance.due("blanks and remarks alone", d.load(" \t\r\n# all { \u00ff\n  # to the end"), 0);
         Dance.due("fault of that", d.hall.fault(), 0);
         Dance.due("no blanks", d.load("form a1=0 0n,4 0e,-4 -0s lark,00004 00004any robin;"), 0);
@@ -127,6 +130,27 @@ public final class TextTest {
         d.dueFault("part q { all all; }", 13, 1);
         Dance.due("further up in the text", d.load("form q = 0 0 n; figure r on q counts 1 price 1 = 0 0 0; "
             + "part t { in q r; } part u { do t; do p; }"), 0);
+    }
+
+    /** Names that are alike in their first letters, up to the last of 24. */
+    private static void longNames() {
+        Dance d = Dance.empty();
+        String eight = "abcdefgh";
+        String[] names = {eight, eight + "i", eight + "j", eight + eight, eight + eight + "i", eight + eight + eight,
+            eight + eight + "abcdefgH", eight + eight + "abcdefg", "a" + eight, eight + "ibcdefgh"};
+        for (int i = 0; i < names.length; i++) {
+            Dance.due("form " + names[i], d.load("form " + names[i] + " = 0 0 n;"), 0);
+        }
+        for (int i = 0; i < names.length; i++) {
+            Dance.due("named " + names[i], d.named(names[i], 0), i);
+        }
+        Dance.due("none", d.named(eight + "k", 0), -1);
+        Dance.due("none", d.named(eight + eight + "j", 0), -1);
+        Dance.due("none", d.named("abcdefg", 0), -1);
+        Dance.due("figures", d.load("figure formation on abcdefghi counts 0 price 0 = 0 0 0;"
+            + "figure figures on abcdefghj counts 0 price 0 = 0 0 0;"), 0);
+        Dance.due("a word that begins like a keyword", d.named("formation", 1), 0);
+        Dance.due("a word that begins like a keyword", d.named("figures", 1), 1);
     }
 
     private static void statements() {
@@ -259,6 +283,9 @@ public final class TextTest {
         Dance.due("the same names may come again", d.load("form z = 0 0 any; part x { all turn; }"), 0);
         Dance.due("fault of that", d.hall.fault(), 0);
         Dance.due("tokens", d.hall.about(13), 7);
+        Dance.due("forms are none of the tokens", d.load("allow all turn; form y = 0 0 n; part v { } figure u on y "
+            + "counts 1 price 1 = 0 0 0;"), 0);
+        Dance.due("tokens", d.hall.about(13), 7 + 4 + 4);
         Dance.due("a new hall has no fault", new CallerHall().fault(), 0);
     }
 
