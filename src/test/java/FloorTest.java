@@ -7,6 +7,7 @@ public final class FloorTest {
         setForgets();
         mark();
         places();
+        largest();
         about();
         Dance.finish("FloorTest");
     }
@@ -127,6 +128,14 @@ public final class FloorTest {
         Dance.due("not at the aim", d.hall.about(5), 0);
         Dance.due("back", d.hall.back(2), true);
         Dance.due("at the aim that was marked", d.hall.about(5), 1);
+        Dance f = Dance.ready();
+        f.call("dancer 0 right");
+        Dance.due("the first one is not home", f.hall.about(4), 0);
+        Dance.due("nor at the aim", f.hall.about(5), 0);
+        f.hall.back(1);
+        f.call("dancer 7 right");
+        Dance.due("the last one is not home", f.hall.about(4), 0);
+        Dance.due("nor at the aim", f.hall.about(5), 0);
         // a full turn is home again, although it is told by TURNED
         Dance e = Dance.ready();
         for (int i = 0; i < 4; i++) {
@@ -151,6 +160,33 @@ public final class FloorTest {
         }
         Dance.due("dancer(0, 4)", d.hall.dancer(0, 4), -1);
         Dance.due("dancer(0, -1)", d.hall.dancer(0, -1), -1);
+    }
+
+    /** As wide and as high as a floor can be. */
+    private static void largest() {
+        Dance d = Dance.ready();
+        d.load("figure up on any1 counts 1 price 1 = 0 1 0; figure aside on any1 counts 1 price 1 = 1 0 0;");
+        d.hall.set(1, 32);
+        Dance.due("64 rows", d.call("robins up"), 0);
+        d.dueDancer(63, 4, 252, 3, 0);
+        d.dueDancer(62, 0, 248, 1, 0);
+        Dance.due("the highest", d.hall.at(4, 252), 63);
+        Dance.due("a step there", d.call("dancer 63 turn"), 0);
+        d.dueDancer(63, 4, 252, 1, 2);
+        d.hall.set(1, 32);
+        for (int bit = 1; bit < 32; bit *= 2) {
+            StringBuilder who = new StringBuilder("couple 31");
+            for (int couple = 0; couple < 31; couple++) {
+                who.append((couple & bit) != 0 ? " or couple " + couple : "");
+            }
+            Dance.due("twice as many columns", d.call(who + " aside"), 0);
+        }
+        d.dueDancer(0, 0, 0, 1, 0);
+        d.dueDancer(63, 252, 124, 3, 0);
+        d.dueDancer(62, 124, 124, 1, 0);
+        Dance.due("the widest", d.hall.at(252, 124), 63);
+        Dance.due("a step there", d.call("all turn"), 0);
+        d.dueDancer(63, 252, 124, 1, 2);
     }
 
     private static void about() {

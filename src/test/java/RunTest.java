@@ -7,6 +7,7 @@ public final class RunTest {
         conditions();
         untils();
         idle();
+        singleActs();
         actsOfConditions();
         failing();
         back();
@@ -175,6 +176,21 @@ public final class RunTest {
         }
         dueSteps(d, 8, 0, 0);
         Dance.due("idle is no failure", d.hall.failed(0), -1);
+    }
+
+    /** Each of these is one act: behind 1999 it may be done, and a step may follow. */
+    private static void singleActs() {
+        String acts = "repeat 64 { repeat 30 { } } repeat 15 { } ";
+        String[] one = {"do p;", "for dancer 9 { }", "for all { }", "if home { }", "if not (home and home) { } else { }",
+            "until home most 9 { }", "until not home most 1 { }", "repeat 1 { }", "if count all is 3 { }"};
+        StringBuilder text = new StringBuilder("part p { } ");
+        for (int i = 0; i < one.length; i++) {
+            text.append("part p").append(i).append(" { ").append(acts).append(one[i]).append(" all hold; } ");
+        }
+        Dance d = with(text.toString());
+        for (int i = 0; i < one.length; i++) {
+            dueSteps(d, i + 1, 1, 0);
+        }
     }
 
     private static void actsOfConditions() {

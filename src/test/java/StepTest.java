@@ -5,6 +5,7 @@ public final class StepTest {
         squared();
         meanings();
         greedy();
+        greedyAgain();
         partitions();
         failures();
         whoByWho();
@@ -58,6 +59,11 @@ public final class StepTest {
         d.dueDancer(2, 0, 16, 3, 8);
         d.dueDancer(6, 4, 8, 1, 0);
         d.dueDancer(3, 20, 8, 3, 0);
+        Dance.due("the first one goes farthest", d.call("dancer 0 far"), 0);
+        d.dueDancer(0, 0, 20, 0, 8);
+        d.dueDancer(2, 4, 16, 3, 8);
+        d.dueDancer(3, 20, 8, 3, 0);
+        d.hall.back(1);
         Dance.due("a gap closes", d.call("dancer 2 far"), 0);
         d.dueDancer(2, 0, 16, 3, 16);
         d.dueDancer(3, 20, 8, 3, 0);
@@ -136,6 +142,21 @@ public final class StepTest {
         d.dueDancer(2, 4, 4, 3, 1);
         d.dueDancer(3, 0, 4, 3, 1);
         d.dueDancer(0, 0, 0, 0, 0);
+    }
+
+    /** What a form finds is found anew when anybody has moved. */
+    private static void greedyAgain() {
+        Dance d = Dance.ready();
+        Dance.due("nobody is face to face", d.call("in face pass"), 1);
+        Dance.due("forward", d.call("heads forward & sides hold"), 0);
+        Dance.due("beats", d.hall.about(1), 2);
+        Dance.due("pass", d.call("in face pass & not in face hold"), 0);
+        Dance.due("now they are behind one another", d.call("in face pass"), 1);
+        Dance.due("turned about", d.call("heads turn"), 0);
+        Dance.due("pass again", d.call("in face pass"), 0);
+        d.dueDancer(0, 4, 0, 2, 2);
+        Dance.due("hold has no counts", d.call("all hold"), 0);
+        Dance.due("beats", d.hall.about(1), 2 + 4 + 2 + 4);
     }
 
     private static void partitions() {

@@ -51,6 +51,11 @@ public final class TextTest {
         Dance.due("fault of that", d.hall.fault(), 0);
         Dance.due("no blanks", d.load("form a1=0 0n,4 0e,-4 -0s lark,00004 00004any robin;"), 0);
         Dance.due("a remark parts", d.load("form#x\nb1#y\n=#\n0#\n0#\nw#\n;"), 0);
+        Dance.due("all sorts of letters", d.load("form zaZA_09 = 0 0 n;"), 0);
+        String outside = "@[`/:|~!\"'$%*+.<>?\\^";
+        for (int i = 0; i < outside.length(); i++) {
+            d.dueFault("form y" + outside.charAt(i) + " = 0 0 n;", 6, 1);
+        }
         Dance.due("24 letters", d.load("form aaaaaaaaaaaaaaaaaaaaaaa_ = 0 0 n;"), 0);
         d.dueFault("form aaaaaaaaaaaaaaaaaaaaaaaaa = 0 0 n;", 5, 1);
         d.dueFault("form f = 0 0000000 n;", 11, 1);
@@ -74,6 +79,8 @@ public final class TextTest {
         Dance.due("places up to 32", d.load("form f0 = 32 -32 n lark, -32 32 any robin;"), 0);
         Dance.due("eight slots", d.load("form f8 = 0 0 n,0 1 n,0 2 n,0 3 n,0 4 n,0 5 n,0 6 n,0 7 n;"), 0);
         d.dueFault("form g = 33 0 n;", 9, 4);
+        d.dueFault("form g = -33 0 n;", 9, 4);
+        d.dueFault("form g = 0 33 n;", 11, 4);
         d.dueFault("form g = 0 -33 n;", 11, 4);
         d.dueFault("form g = 0 0;", 12, 1);
         d.dueFault("form g = 0 0 north;", 13, 1);
@@ -98,6 +105,9 @@ public final class TextTest {
         d.dueFault("figure g on duo counts 65 price 0 = 0 0 0, 4 0 0;", 23, 4);
         d.dueFault("figure g on duo counts -1 price 0 = 0 0 0, 4 0 0;", 23, 4);
         d.dueFault("figure g on duo counts 1 price 1001 = 0 0 0, 4 0 0;", 31, 4);
+        d.dueFault("figure g on duo counts 1 price -1 = 0 0 0, 4 0 0;", 31, 4);
+        d.dueFault("figure g on duo counts 1 price 1 = -33 0 0, 4 0 0;", 35, 4);
+        d.dueFault("figure g on duo counts 1 price 1 = 0 -33 0, 4 0 0;", 37, 4);
         d.dueFault("figure g on duo counts 1 price 1 = 33 0 0, 4 0 0;", 35, 4);
         d.dueFault("figure g on duo counts 1 price 1 = 0 33 0, 4 0 0;", 37, 4);
         d.dueFault("figure g on duo counts 1 price 1 = 0 0 9, 4 0 0;", 39, 4);
@@ -300,6 +310,8 @@ public final class TextTest {
         Dance.due("that is no fault", d.hall.fault(), 0);
         Dance.due("sort 3", d.named("box", 3), -1);
         Dance.due("sort -1", d.named("box", -1), -1);
+        Dance.due("sort 3", d.named("q", 3), -1);
+        Dance.due("sort -1", d.named("q", -1), -1);
         Dance.due("no fault either", d.hall.fault(), 0);
         Dance.due("unknown", d.named("nobody", 0), -1);
         Dance.due("no fault", d.hall.fault(), 0);

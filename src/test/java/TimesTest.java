@@ -2,6 +2,7 @@
 public final class TimesTest {
     public static void main(String[] args) {
         ordinary();
+        exactly100();
         limits();
         nothingElseChanges();
         Dance.finish("TimesTest");
@@ -26,6 +27,31 @@ public final class TimesTest {
         for (int[] wrong : none) {
             Dance.due("times of none", d.hall.times(wrong[0], wrong[1], wrong[2]), -1);
         }
+    }
+
+    /** Larks' facings count the times, in fours; when they tell the number that is due all turn home. */
+    private static String counter(String name, int due) {
+        String[] facings = {"e", "s", "w", "n"};
+        String[] home = {"hold", "left", "turn", "right"};
+        StringBuilder told = new StringBuilder();
+        StringBuilder turns = new StringBuilder();
+        for (int digit = 0; digit < 4; digit++) {
+            int value = due >> 2 * digit & 3;
+            told.append(digit == 0 ? "" : " or ").append("dancer ").append(2 * digit).append(" and facing ")
+                .append(facings[value]);
+            turns.append("dancer ").append(2 * digit).append(' ').append(home[value]).append("; ");
+        }
+        return "part " + name + " { dancer 0 right; if count dancer 0 and facing e is 1 { dancer 2 right; "
+            + "if count dancer 2 and facing e is 1 { dancer 4 right; if count dancer 4 and facing e is 1 "
+            + "{ dancer 6 right; } } } if count " + told + " is 4 { " + turns + "} } ";
+    }
+
+    private static void exactly100() {
+        Dance d = Dance.ready();
+        Dance.due("load", d.load(counter("a", 99) + counter("b", 100) + counter("c", 101)), 0);
+        Dance.due("99", d.hall.times(0, 1, 4), 99);
+        Dance.due("100", d.hall.times(1, 1, 4), 100);
+        Dance.due("101 is beyond", d.hall.times(2, 1, 4), -1);
     }
 
     private static void limits() {
