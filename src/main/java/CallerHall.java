@@ -1334,6 +1334,8 @@ public final class CallerHall {
         final int[] home = new int[MOST_DANCERS];
         /** The dancers by Y, of one Y by X. */
         final int[] order = new int[MOST_DANCERS];
+        /** Who faces each of the four ways. */
+        final long[] facers = new long[4];
         /** 1 + who is there. */
         private final byte[] seats = new byte[SPOTS];
         int size;
@@ -1382,11 +1384,13 @@ public final class CallerHall {
                 seats[codeAt(d) >> 2] = 0;
             }
             size = Math.min(dancers, Math.min(codes.length, MOST_DANCERS));
+            Arrays.fill(facers, 0L);
             for (int d = 0; d < size; d++) {
                 int spot = codes[d] >> 2 & SPOTS - 1;
                 x[d] = (spot & 63) << 2;
                 y[d] = spot >> 6 << 2;
                 facing[d] = codes[d] & 3;
+                facers[facing[d]] |= 1L << d;
                 seats[spot] = (byte) (d + 1);
             }
             sort();
@@ -1708,20 +1712,10 @@ public final class CallerHall {
                 case Book.DANCER:
                     return 1L << value;
                 case Book.FACING:
-                    return thoseFacing(value, floor);
+                    return floor.facers[value & 3];
                 default:
                     return -1L;
             }
-        }
-
-        private static long thoseFacing(int facing, Floor floor) {
-            long some = 0;
-            for (int d = 0; d < floor.size; d++) {
-                if (floor.facing[d] == facing) {
-                    some |= 1L << d;
-                }
-            }
-            return some;
         }
 
         /** What the step whose code begins at a place would fail for, 0 if it can be danced; nobody moves yet. */
