@@ -54,7 +54,7 @@ public final class AnyCallsTest {
     }
 
     private static void oneCall(Dance d, Random lot, int id) {
-        CallerHall h = d.hall;
+        Counted h = d.hall;
         switch (lot.nextInt(26)) {
             case 0 -> h.feed(lot.nextInt(), lot.nextInt(), lot.nextInt(), lot.nextInt(), lot.nextInt());
             case 1 -> h.end(any(lot));
@@ -82,7 +82,7 @@ public final class AnyCallsTest {
     }
 
     /** The floor is squared, nobody shares a place, and everybody is found where it is. */
-    private static void dueSound(CallerHall h) {
+    private static void dueSound(Counted h) {
         int n = h.about(0);
         boolean[][] used = new boolean[2][256];
         for (int d = 0; d < n; d++) {

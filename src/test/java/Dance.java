@@ -17,8 +17,9 @@ final class Dance {
 
     private static int wrong;
     private static int asked;
+    private static String said = "";
 
-    final CallerHall hall = new CallerHall();
+    final Counted hall = new Counted();
 
     private Dance() {
     }
@@ -34,16 +35,32 @@ final class Dance {
         return dance;
     }
 
+    /** A hall that has read BOOK, and a text behind it. */
+    static Dance with(String book) {
+        Dance dance = ready();
+        due("load of " + book, dance.load(book), 0);
+        return dance;
+    }
+
+    /** The sentence of the document that all answers from here on are due by. */
+    static void says(String sentence) {
+        said = "[" + sentence + "] ";
+    }
+
     static void due(String what, long got, long want) {
         asked++;
         if (got != want) {
             wrong++;
-            System.out.println(what + " answered " + got + ", due is " + want);
+            System.out.println(said + what + " answered " + got + ", due is " + want);
         }
     }
 
     static void due(String what, boolean got, boolean want) {
         due(what, got ? 1 : 0, want ? 1 : 0);
+    }
+
+    static void due(String what, String got, String want) {
+        due(what + ": " + got + " where due is " + want, got.equals(want), true);
     }
 
     static void finish(String test) {
@@ -106,6 +123,69 @@ final class Dance {
         due("failed(0)", hall.failed(0), why);
         due("failed(1)", hall.failed(1), who);
         due("failed(2)", hall.failed(2), other);
+    }
+
+    /** All that is told by calls that change nothing. */
+    String state() {
+        StringBuilder all = new StringBuilder();
+        for (int what = 0; what < 14; what++) {
+            all.append(hall.about(what)).append(' ');
+        }
+        all.append("fault ").append(hall.fault()).append(" failed");
+        for (int i = 0; i < 3; i++) {
+            all.append(' ').append(hall.failed(i));
+        }
+        int dancers = hall.about(0);
+        for (int d = 0; d < dancers; d++) {
+            all.append(", ").append(hall.dancer(d, 0)).append(' ').append(hall.dancer(d, 1)).append(' ')
+                .append(hall.dancer(d, 2)).append(' ').append(hall.dancer(d, 3));
+        }
+        all.append(" rows ").append(hall.rows()).append(" found");
+        for (int i = 0; i < 3; i++) {
+            all.append(' ').append(hall.found(i));
+        }
+        return all.toString();
+    }
+
+    /**
+     * A hall in the midst of all: a run behind the first of its three steps, five steps in the history, a marked aim one
+     * step away, a row of two steps whose second is next, a step that failed, and a name on the tape.
+     */
+    static Dance busy() {
+        Dance dance = with("part p { for larks { all right; all turn; } all hold; } allow larks left; allow robins right;"
+            + " allow dancer 0 meet;");
+        due("call", dance.call("all right"), 0);
+        due("begin", dance.hall.begin(0), true);
+        due("step", dance.hall.step(), 1);
+        dance.hall.mark();
+        due("call", dance.call("larks right"), 0);
+        due("call", dance.call("robins left"), 0);
+        due("resolve", dance.hall.resolve(4), 2);
+        due("row", dance.hall.row(1), true);
+        due("follow", dance.hall.follow(), 0);
+        due("may", dance.hall.may(2), 5);
+        dance.write("xyz");
+        return dance;
+    }
+
+    /** That a busy hall is as it was, also in what shows only when it goes on. */
+    void dueGoesOn(String call, String before) {
+        due(call + " changes nothing", state(), before);
+        due("the row's second step behind " + call, hall.follow(), 0);
+        due("the aim behind " + call, hall.about(5), 1);
+        due("the row's end behind " + call, hall.follow(), -1);
+        due("back behind " + call, hall.back(1), true);
+        due("the run's second step behind " + call, hall.step(), 1);
+        dueDancer(0, 4, 0, 1, 5);
+        dueDancer(1, 8, 0, 1, 1);
+        due("the run's third step behind " + call, hall.step(), 1);
+        due("the run's end behind " + call, hall.step(), 0);
+        due("the steps behind " + call, hall.about(2), 7);
+        due("back to the first step behind " + call, hall.back(7), true);
+        due("home behind " + call, hall.about(4), 1);
+        due("no run behind " + call, hall.about(10), 0);
+        due("the tape behind " + call, hall.named(0), -1);
+        due("a name on it behind " + call, hall.fault(), 0);
     }
 
     static String many(String text, int times) {

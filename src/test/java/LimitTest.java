@@ -41,16 +41,14 @@ public final class LimitTest {
     }
 
     private static void theToken6001() {
-        Dance d = almostFull();
         String text = "part q{" + Dance.many(LONG, 34) + "(all)f;" + Dance.many("all f;", 3);
         // without its } the text ends behind the 5999th
-        d.dueFault(text, text.length(), 1);
-        d.dueFault(text + "all f;}", text.length() + 4, 5);
-        d.dueFault(text + "all p;}", text.length() + 4, 2);
-        d.dueFault(text + "all 5;}", text.length() + 4, 1);
-        d.dueFault(text + "all @;}", text.length() + 4, 1);
-        d.dueFault(text + "} allow all f;", text.length() + 2, 5);
-        Dance.due("none of a book at fault", d.hall.about(13), 3908);
+        dueFaultBehind(text, "", 0, 1);
+        dueFaultBehind(text, "all f;}", 4, 5);
+        dueFaultBehind(text, "all p;}", 4, 2);
+        dueFaultBehind(text, "all 5;}", 4, 1);
+        dueFaultBehind(text, "all @;}", 4, 1);
+        dueFaultBehind(text, "} allow all f;", 2, 5);
         Dance e = almostFull();
         Dance.due("2091 more", e.load("part q{" + Dance.many(LONG, 34) + "(all)f;(all)f;all f;}"), 0);
         Dance.due("tokens", e.hall.about(13), 5999);
@@ -62,11 +60,17 @@ public final class LimitTest {
         e.dueFault("allow", 5, 1);
     }
 
+    private static void dueFaultBehind(String text, String more, int place, int fault) {
+        Dance d = almostFull();
+        d.dueFault(text + more, text.length() + place, fault);
+        Dance.due("none of a book at fault", d.hall.about(13), 3908);
+    }
+
     private static void callsBehind6000() {
         Dance d = almostFull();
         d.load("part q{" + Dance.many(LONG, 34) + "(all)f;" + Dance.many("all f;", 3) + "}");
         // the longest steps that a tape can hold are no part of the 6000
-        String step = Dance.many("((((((all)))))) or ", 100) + "all f";
+        String step = Dance.many("((((((all)))))) or ", 80) + "all f";
         Dance.due("a long step", d.call(step), 0);
         Dance.due("tokens", d.hall.about(13), 6000);
         Dance.due("begin", d.hall.begin(0), true);
@@ -114,18 +118,18 @@ public final class LimitTest {
         CallerHall hall = new CallerHall();
         long one = made() - start;
         Dance.due("a new hall of " + one + " bytes is small", one < 1500000, true);
-        Dance d = deep(15);
-        d.load("part r { repeat 64 { repeat 64 { do p15; } } }"
+        Dance d = deep(10);
+        d.load("part r { repeat 64 { repeat 64 { do p10; } } }"
             + " allow dancer 0 f; allow dancer 1 f; allow dancer 2 f; allow dancer 3 f; allow dancer 4 f; allow dancer 5 f;");
         start = made();
-        d.hall.begin(16);
+        d.hall.begin(11);
         for (int i = 0; i < 250; i++) {
             d.hall.step();
         }
         for (int i = 0; i < 4; i++) {
             d.hall.resolve(12);
-            d.hall.times(15, 1, 32);
-            d.hall.times(16, 0, 4);
+            d.hall.times(10, 1, 32);
+            d.hall.times(11, 0, 4);
         }
         long all = made() - start;
         Dance.due("250 deep steps made " + all + " bytes", all < 4000000, true);

@@ -16,12 +16,6 @@ public final class RunTest {
         Dance.finish("RunTest");
     }
 
-    private static Dance with(String parts) {
-        Dance d = Dance.ready();
-        Dance.due("load of " + parts, d.load(parts), 0);
-        return d;
-    }
-
     /** Dances the rest of a run; how much all dancers have turned tells which steps there were. */
     private static void dueSteps(Dance d, int part, int steps, int end) {
         int before = d.hall.about(2);
@@ -37,7 +31,7 @@ public final class RunTest {
     }
 
     private static void begin() {
-        Dance d = with("part p { all right; } part q { all turn; all turn; }");
+        Dance d = Dance.with("part p { all right; } part q { all turn; all turn; }");
         Dance.due("begin(2)", d.hall.begin(2), false);
         Dance.due("begin(-1)", d.hall.begin(-1), false);
         Dance.due("no run", d.hall.about(10), 0);
@@ -63,7 +57,7 @@ public final class RunTest {
     }
 
     private static void statements() {
-        Dance d = with("part none { } part one { all right; } part two { do one; all turn; do one; do none; } "
+        Dance d = Dance.with("part none { } part one { all right; } part two { do one; all turn; do one; do none; } "
             + "part three { repeat 3 { do one; repeat 2 { all left; } } } "
             + "part four { if home { all right; } if home { all turn; } else { all left; } } "
             + "part five { repeat 2 { repeat 2 { repeat 2 { all right; } } all hold; } do three; }");
@@ -82,7 +76,7 @@ public final class RunTest {
     }
 
     private static void scopes() {
-        Dance d = with("part p { all right; not larks right; } "
+        Dance d = Dance.with("part p { all right; not larks right; } "
             + "part q { for heads { for larks or sides { do p; } all turn; } all left; } "
             + "part r { for facing n { all turn; all right; } for dancer 40 { if count all is 0 { } else { all hold; } } } "
             + "part t { for larks { if count all is 4 { all right; } if count not all is 0 { all turn; } } }");
@@ -95,7 +89,7 @@ public final class RunTest {
         Dance.due("not larks of these: nobody", d.hall.step(), 2);
         d.dueFailed(1, -1, -1);
         // the scope is those whom it meant when it was come to, wherever they face later
-        Dance e = with("part r { for facing n { all turn; all right; } all hold; for dancer 40 { if count all is 0 { } "
+        Dance e = Dance.with("part r { for facing n { all turn; all right; } all hold; for dancer 40 { if count all is 0 { } "
             + "else { all hold; } } } part t { for larks { if count all is 4 { all right; } if count not all is 0 "
             + "{ all turn; } } if count all is 8 { all left; } }"
             + " part u { for heads { for larks { all right; } all turn; } all left; }");
@@ -114,7 +108,7 @@ public final class RunTest {
 
     /** A condition, looked at in a set of kind and n. */
     private static void dueHolds(String condition, int kind, int n, boolean holds) {
-        Dance d = with("part p { if " + condition + " { all right; } }");
+        Dance d = Dance.with("part p { if " + condition + " { all right; } }");
         d.hall.set(kind, n);
         d.hall.begin(0);
         Dance.due(condition + " in set " + kind, d.hall.step(), holds ? 1 : 0);
@@ -148,7 +142,7 @@ public final class RunTest {
     }
 
     private static void untils() {
-        Dance d = with("part p { until home most 8 { all right; } } part q { until not home most 8 { all right; } } "
+        Dance d = Dance.with("part p { until home most 8 { all right; } } part q { until not home most 8 { all right; } } "
             + "part r { until count facing e is 8 most 3 { all right; } all turn; }");
         dueSteps(d, 0, 0, 0);
         dueSteps(d, 1, 1, 0);
@@ -163,7 +157,7 @@ public final class RunTest {
     private static void idle() {
         // 64 + 64 * 30 + 16 = 2000 acts
         String acts = "repeat 64 { repeat 30 { } } repeat 16 { } ";
-        Dance d = with("part a { " + acts + "all hold; " + acts + "all hold; } "
+        Dance d = Dance.with("part a { " + acts + "all hold; " + acts + "all hold; } "
             + "part b { " + acts + "repeat 1 { } all hold; } part c { " + acts + "all hold; " + acts + "repeat 1 { } } "
             + "part d { } part f { " + acts + "do d; } part g { " + acts + "for dancer 9 { } } "
             + "part h { " + acts + "if home { } } part i { " + acts + "until home most 1 { } } "
@@ -187,7 +181,7 @@ public final class RunTest {
         for (int i = 0; i < one.length; i++) {
             text.append("part p").append(i).append(" { ").append(acts).append(one[i]).append(" all hold; } ");
         }
-        Dance d = with(text.toString());
+        Dance d = Dance.with(text.toString());
         for (int i = 0; i < one.length; i++) {
             dueSteps(d, i + 1, 1, 0);
         }
@@ -198,7 +192,7 @@ public final class RunTest {
         String most = "repeat 64 { repeat 30 { } } repeat 6 { } ";
         String ten = "if count in box or at box 1 and in duo is 0 and (forms box in box) or (forms duo at duo 1) "
             + "or home and not (forms box in box) or home { } ";
-        Dance d = with("part a { " + most + ten + "all hold; } part b { " + most + "repeat 1 { } " + ten + "all hold; } "
+        Dance d = Dance.with("part a { " + most + ten + "all hold; } part b { " + most + "repeat 1 { } " + ten + "all hold; } "
             + "part c { " + most + "for in box or at box 1 { } for not (in box and at box 0) { } repeat 4 { } all hold; } "
             + "part d { " + most + "for in box or at box 1 { } for not (in box and at box 0) { } repeat 5 { } all hold; }");
         dueSteps(d, 0, 1, 0);
@@ -207,7 +201,7 @@ public final class RunTest {
         dueSteps(d, 3, 0, 3);
         // an until looks three times at most here, each with two acts: 1994 + 6, and the step's own forms are none
         String more = "repeat 64 { repeat 30 { } } repeat 10 { } ";
-        Dance e = with("part a { " + more + "until count in box is 1 most 3 { } in pair hold; } "
+        Dance e = Dance.with("part a { " + more + "until count in box is 1 most 3 { } in pair hold; } "
             + "part b { " + more + "repeat 1 { } until count in box is 1 most 3 { } in pair hold; }"
             + "part c { " + more + "repeat 4 { } until count in box is 0 most 3 { } all hold; }");
         dueSteps(e, 0, 1, 0);
@@ -216,7 +210,7 @@ public final class RunTest {
     }
 
     private static void failing() {
-        Dance d = with("part p { all right; dancer 0 meet; all right; }");
+        Dance d = Dance.with("part p { all right; dancer 0 meet; all right; }");
         d.call("all left");
         Dance.due("begin", d.hall.begin(0), true);
         Dance.due("step", d.hall.step(), 1);
@@ -231,7 +225,7 @@ public final class RunTest {
     }
 
     private static void back() {
-        Dance d = with("part p { all right; }");
+        Dance d = Dance.with("part p { all right; }");
         Dance.due("back(0)", d.hall.back(0), true);
         Dance.due("back(1)", d.hall.back(1), false);
         Dance.due("back(-1)", d.hall.back(-1), false);
@@ -260,7 +254,7 @@ public final class RunTest {
     }
 
     private static void backWithRuns() {
-        Dance d = with("part p { repeat 3 { for larks { all right; repeat 2 { all turn; } } } } part q { all left; }");
+        Dance d = Dance.with("part p { repeat 3 { for larks { all right; repeat 2 { all turn; } } } } part q { all left; }");
         Dance.due("begin", d.hall.begin(0), true);
         for (int i = 0; i < 5; i++) {
             Dance.due("step " + i, d.hall.step(), 1);
@@ -309,7 +303,7 @@ public final class RunTest {
     }
 
     private static void longHistory() {
-        Dance d = with("part p { repeat 64 { repeat 5 { all right; } } }");
+        Dance d = Dance.with("part p { repeat 64 { repeat 5 { all right; } } }");
         d.hall.begin(0);
         for (int i = 0; i < 205; i++) {
             Dance.due("step", d.hall.step(), 1);

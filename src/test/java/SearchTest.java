@@ -15,14 +15,8 @@ public final class SearchTest {
         Dance.finish("SearchTest");
     }
 
-    private static Dance with(String book) {
-        Dance d = Dance.ready();
-        Dance.due("load of " + book, d.load(book), 0);
-        return d;
-    }
-
     private static void wrongSearches() {
-        Dance d = with("allow all right;");
+        Dance d = Dance.with("allow all right;");
         d.call("all turn");
         Dance.due("resolve(2)", d.hall.resolve(2), 2);
         Dance.due("row(0)", d.hall.row(0), true);
@@ -53,7 +47,7 @@ public final class SearchTest {
     }
 
     private static void atTheAim() {
-        Dance d = with("allow all right; allow all hold;");
+        Dance d = Dance.with("allow all right; allow all hold;");
         Dance.due("resolve(0)", d.hall.resolve(0), 0);
         Dance.due("the empty row", d.hall.rows(), 1);
         Dance.due("none is chosen", d.hall.found(0), -1);
@@ -87,7 +81,7 @@ public final class SearchTest {
     }
 
     private static void rowsInOrder() {
-        Dance d = with("allow all turn; allow larks right; allow all hold; allow robins right; allow larks right & robins hold;");
+        Dance d = Dance.with("allow all turn; allow larks right; allow all hold; allow robins right; allow larks right & robins hold;");
         d.call("all turn");
         d.call("robins right");
         // larks want two quarters, robins one: with all turn at first, robins want three quarters
@@ -112,7 +106,7 @@ public final class SearchTest {
     }
 
     private static void cheapest() {
-        Dance d = with("figure dear on any1 counts 1 price 1000 = 0 0 1; figure cheap on any1 counts 1 price 3 = 0 0 1;"
+        Dance d = Dance.with("figure dear on any1 counts 1 price 1000 = 0 0 1; figure cheap on any1 counts 1 price 3 = 0 0 1;"
             + " figure fair on any1 counts 1 price 4 = 0 0 1;"
             + " allow larks dear; allow larks fair; allow robins dear; allow larks cheap & robins hold; allow robins fair;"
             + " allow larks cheap; allow robins hold & larks fair;");
@@ -130,7 +124,7 @@ public final class SearchTest {
     }
 
     private static void draws() {
-        Dance d = with("allow all right; allow all right; allow all right;");
+        Dance d = Dance.with("allow all right; allow all right; allow all right;");
         d.call("all turn");
         Dance.due("draw of none", d.hall.draw(5, 5), false);
         Dance.due("resolve", d.hall.resolve(4), 2);
@@ -154,7 +148,7 @@ public final class SearchTest {
     }
 
     private static void manyRows() {
-        Dance d = with("form five = 0 0 any, 0 4 any, 0 8 any, 0 12 any, 0 16 any; form three = 0 0 any, 0 4 any, 0 8 any;"
+        Dance d = Dance.with("form five = 0 0 any, 0 4 any, 0 8 any, 0 12 any, 0 16 any; form three = 0 0 any, 0 4 any, 0 8 any;"
             + " figure go5 on five counts 1 price 999 = 0 4 0, 0 8 0, 0 12 0, 0 16 0, 0 0 0;"
             + " figure go3 on three counts 1 price 1 = 0 4 0, 0 8 0, 0 0 0;"
             + Dance.many(" allow larks go5 & robins and not (dancer 7 or dancer 9) go3;", 32));
@@ -187,7 +181,7 @@ public final class SearchTest {
     }
 
     private static void follow() {
-        Dance d = with("allow larks right; allow robins right; allow dancer 0 meet;");
+        Dance d = Dance.with("allow larks right; allow robins right; allow dancer 0 meet;");
         d.call("all left");
         Dance.due("resolve", d.hall.resolve(3), 2);
         Dance.due("row(1)", d.hall.row(1), true);
@@ -210,7 +204,7 @@ public final class SearchTest {
         Dance.due("a row that is none changes nothing", d.hall.row(2), false);
         Dance.due("follow", d.hall.follow(), -1);
         // one that fails stays the next one
-        Dance e = with("figure away on any1 counts 1 price 1 = 0 -4 0; allow dancer 0 meet;");
+        Dance e = Dance.with("figure away on any1 counts 1 price 1 = 0 -4 0; allow dancer 0 meet;");
         e.call("dancer 1 meet");
         e.call("dancer 0 meet");
         e.hall.mark();
@@ -229,7 +223,7 @@ public final class SearchTest {
     }
 
     private static void whatStays() {
-        Dance d = with("allow larks right; allow robins right;");
+        Dance d = Dance.with("allow larks right; allow robins right;");
         d.call("all left");
         Dance.due("resolve", d.hall.resolve(3), 2);
         Dance.due("row(1)", d.hall.row(1), true);
@@ -262,7 +256,7 @@ public final class SearchTest {
 
     /** Six dancers who can turn each: 1, 6, 21, 56, 120, 216, 336, 456, 546 states of the levels 0 .. 8. */
     private static Dance turners() {
-        Dance d = with("allow dancer 0 right; allow dancer 1 right; allow dancer 2 right; allow dancer 3 right;"
+        Dance d = Dance.with("allow dancer 0 right; allow dancer 1 right; allow dancer 2 right; allow dancer 3 right;"
             + " allow dancer 4 right; allow dancer 5 right;");
         d.hall.set(1, 8);
         return d;
@@ -296,7 +290,7 @@ public final class SearchTest {
         String column = "dancer 0 or dancer 2 or dancer 4 or dancer 6 or dancer 8 ";
         String other = "dancer 1 or dancer 3 or dancer 5 or dancer 7 or dancer 9 ";
         String rest = "dancer 10 or dancer 11 or dancer 12 or dancer 13 or dancer 14 ";
-        Dance d = with("form bar = 0 0 any, 0 4 any, 0 8 any, 0 12 any, 0 16 any;"
+        Dance d = Dance.with("form bar = 0 0 any, 0 4 any, 0 8 any, 0 12 any, 0 16 any;"
             + " form flag = 0 0 any, 0 4 any, 0 8 any, 4 0 any, 4 4 any;"
             + " figure bar1 on bar counts 1 price 1 = 0 4 0, 0 8 0, 0 12 0, 0 16 0, 0 0 0;"
             + " figure bar4 on bar counts 1 price 1 = 0 16 0, 0 0 0, 0 4 0, 0 8 0, 0 12 0;"

@@ -93,6 +93,7 @@ public final class StepTest {
         dueMeant(d, "couple 4", "");
         dueMeant(d, "dancer 7", "7");
         dueMeant(d, "dancer 8", "");
+        d = Dance.ready();
         dueMeant(d, "facing n", "01");
         dueMeant(d, "facing e", "67");
         dueMeant(d, "facing s", "45");
