@@ -70,19 +70,27 @@ final class Dance {
         }
     }
 
-    /** Feeds a text, and cuts off the bytes that only fill the last twenty. */
+    /** Feeds a text: at first the bytes that do not make twenty, with others behind them that are cut off. */
     void write(String text) {
         byte[] bytes = text.getBytes(StandardCharsets.ISO_8859_1);
-        int before = hall.about(12);
-        for (int i = 0; i < bytes.length; i += 20) {
-            int[] five = new int[5];
-            for (int k = 0; k < 20; k++) {
-                int one = i + k < bytes.length ? bytes[i + k] & 255 : 0;
-                five[k / 4] = five[k / 4] << 8 | one;
-            }
-            due("feed", hall.feed(five[0], five[1], five[2], five[3], five[4]), true);
+        int odd = bytes.length % 20;
+        if (odd > 0) {
+            int before = hall.about(12);
+            feedTwenty(bytes, 0, odd);
+            due("end", hall.end(before + odd), true);
         }
-        due("end", hall.end(before + bytes.length), true);
+        for (int i = odd; i < bytes.length; i += 20) {
+            feedTwenty(bytes, i, i + 20);
+        }
+    }
+
+    private void feedTwenty(byte[] bytes, int from, int to) {
+        int[] five = new int[5];
+        for (int k = 0; k < 20; k++) {
+            int one = from + k < to ? bytes[from + k] & 255 : 0;
+            five[k / 4] = five[k / 4] << 8 | one;
+        }
+        due("feed", hall.feed(five[0], five[1], five[2], five[3], five[4]), true);
     }
 
     int load(String text) {
