@@ -12,6 +12,7 @@ public final class EdgeFaultTest {
         tokensFromTheFirstWord();
         tokensOfOthers();
         tokensOfABookAtFault();
+        token6001();
         everyToken6001();
         nestedBlocks();
         nestedGroups();
@@ -216,7 +217,7 @@ public final class EdgeFaultTest {
         Dance.due("tokens", d.hall.about(13), 5999);
     }
 
-    private static void everyToken6001() {
+    private static void token6001() {
         Dance.says("5 .. a token of parts and allows beyond 6000");
         dueBehind5999("part r{}", 5, 5);
         dueBehind5999("allow all f;", 6, 5);
@@ -240,6 +241,47 @@ public final class EdgeFaultTest {
             Dance d = almostFull();
             Dance.due("load behind " + tails[i], d.load(head + tails[i]), -2 - head.length() - places[i]);
             Dance.due("fault", d.hall.fault(), faults[i]);
+        }
+    }
+
+    /** Statements of so many tokens, three at least. */
+    private static String statements(int tokens) {
+        int left = tokens;
+        StringBuilder text = new StringBuilder();
+        while (left >= 61 + 3) {
+            text.append(LONG);
+            left -= 61;
+        }
+        while (left >= 6) {
+            text.append("all f;");
+            left -= 3;
+        }
+        return text + (left == 3 ? "all f;" : left == 4 ? "not all f;" : "(all)f;");
+    }
+
+    /** A part and an allowed step with all there is, each of their tokens as the 6001st. */
+    private static void everyToken6001() {
+        Dance.says("5 .. a token of parts and allows beyond 6000");
+        String[] words = ("part z { all f & ( larks or not robins ) and heads f ; do p ; repeat 2 { } until home and not home or home most 3 "
+            + "{ all f ; } if count sides is 8 { } else { } for couple 1 or dancer 2 and facing n { } if ( forms a in a or at a 0 ) { } } "
+            + "allow all f & all f ;").split(" ");
+        for (int i = 0; i < words.length; i++) {
+            Dance d = almostFull();
+            Dance.due("tokens", d.load("part q{" + statements(2092 - i - 4) + "}"), 0);
+            Dance.due("tokens", d.hall.about(13), 6000 - i);
+            StringBuilder ahead = new StringBuilder();
+            for (int k = 0; k < i; k++) {
+                ahead.append(words[k]).append(' ');
+            }
+            StringBuilder behind = new StringBuilder();
+            for (int k = i; k < words.length; k++) {
+                behind.append(words[k]).append(' ');
+            }
+            Dance.due("the 6001st is " + words[i], d.load(ahead.toString() + behind), -2 - ahead.length());
+            Dance.due("fault", d.hall.fault(), 5);
+            Dance.due("no token there", d.load(ahead + "@"), -2 - ahead.length());
+            Dance.due("fault", d.hall.fault(), 1);
+            Dance.due("tokens", d.hall.about(13), 6000 - i);
         }
     }
 
@@ -371,10 +413,22 @@ public final class EdgeFaultTest {
             text.append(i == 0 ? "" : " ").append(words[i]);
             open += words[i].equals("{") ? 1 : words[i].equals("}") ? -1 : 0;
             boolean whole = open == 0 && (words[i].equals(";") || words[i].equals("}"));
-            dueLoad(Dance.empty(), text.toString(), text.length(), whole ? 0 : 1);
-            dueLoad(Dance.empty(), text + " @", text.length() + 1, 1);
+            Dance d = Dance.empty();
+            dueLoad(d, text + " @", text.length() + 1, 1);
+            dueNothing(d);
+            dueLoad(d, text.toString(), text.length(), whole ? 0 : 1);
+            if (!whole) {
+                dueNothing(d);
+            }
         }
         Dance.due("brackets", open, 0);
+    }
+
+    private static void dueNothing(Dance d) {
+        int[] counts = {6, 7, 8, 9, 13};
+        for (int what : counts) {
+            Dance.due("about(" + what + ") of a book at fault", d.hall.about(what), 0);
+        }
     }
 
     private static void noneOfThatSort() {

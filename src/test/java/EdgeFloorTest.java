@@ -430,7 +430,12 @@ public final class EdgeFloorTest {
         Dance.due("one goes away", d.call("dancer 1 meet"), 0);
         Dance.due("nobody where it was", d.hall.at(8, 0), -1);
         Dance.due("and it where it is", d.hall.at(12, 0), 1);
-        Dance.due("who goes into another", d.call("dancer 6 meet & dancer 7 meet & dancer 0 meet & dancer 1 hold"), 0);
+        Dance.due("the first one goes after it", d.call("dancer 0 meet"), 0);
+        Dance.due("nobody where it was", d.hall.at(4, 0), -1);
+        Dance.due("and it where it is", d.hall.at(8, 0), 0);
+        Dance.due("back", d.hall.back(1), true);
+        Dance.due("it is where it was", d.hall.at(4, 0), 0);
+        Dance.due("and nobody there", d.hall.at(8, 0), -1);
         Dance.due("a larger set", d.hall.set(1, 32), true);
         Dance.due("its last one", d.hall.at(4, 124), 63);
         Dance.due("a smaller set", d.hall.set(1, 1), true);

@@ -26,6 +26,8 @@ public final class EdgeRunTest {
         noneIfThereIsNone();
         latest200();
         aheadOfEach();
+        theRunAheadOfEach();
+        deepestRun();
         backToNone();
         notSoMany();
         refusedBack();
@@ -435,6 +437,61 @@ public final class EdgeRunTest {
         }
         Dance.due("home", d.hall.about(4), 1);
         Dance.due("no run ahead of the first call", d.hall.step(), -1);
+    }
+
+    /** Dances a run to its end, and from ahead of each of its steps to its end again. */
+    private static void theRunAheadOfEach() {
+        Dance.says("with what was ahead of each: .. the RUN");
+        String parts = "part x{robins right;all left;} part p{for heads{repeat 2{all right;for larks{do x2;}}}"
+            + "until count facing n is 0 most 2{do x;}if home{all hold;}else{sides turn;}}";
+        String inner = "part x2{all right;if count all is 2{all turn;}}";
+        int steps = 11;
+        for (int n = 1; n <= steps; n++) {
+            Dance d = Dance.with(inner + parts);
+            Dance.due("begin", d.hall.begin(2), true);
+            for (int i = 0; i < steps; i++) {
+                Dance.due("step " + i, d.hall.step(), 1);
+            }
+            String last = d.state();
+            Dance.due("back(" + n + ")", d.hall.back(n), true);
+            Dance.due("steps", d.hall.about(2), steps - n);
+            for (int i = steps - n; i < steps; i++) {
+                Dance.due("step " + i + " again", d.hall.step(), 1);
+            }
+            Dance.due("behind it again", d.state(), last);
+            Dance.due("end", d.hall.step(), 0);
+            Dance.due("back(" + n + ") behind its end", d.hall.back(n), true);
+            for (int i = steps - n; i < steps; i++) {
+                Dance.due("step " + i + " again", d.hall.step(), 1);
+            }
+            Dance.due("behind it again", d.state(), last);
+        }
+    }
+
+    /** As deep as the calls of one hall can tell: 30 in one another in each of 30 parts that are done in one another. */
+    private static void deepestRun() {
+        Dance.says("do: that part's statements. .. of { ( and not at most 30 are in one another");
+        Dance d = Dance.empty();
+        StringBuilder text = new StringBuilder("form a=0 0 any;figure f on a counts 1 price 1=0 0 1;part p0{all f;all f;}");
+        for (int i = 1; i <= 30; i++) {
+            text.append("part p").append(i).append('{').append(Dance.many("for all{", 29)).append("do p").append(i - 1).append(';')
+                .append(Dance.many("}", 30));
+            if (i % 14 == 0 || i == 30) {
+                Dance.due("load", d.load(text.toString()), 0);
+                text.setLength(0);
+            }
+        }
+        Dance.due("begin", d.hall.begin(30), true);
+        Dance.due("step", d.hall.step(), 1);
+        Dance.due("step", d.hall.step(), 1);
+        Dance.due("back", d.hall.back(1), true);
+        Dance.due("step", d.hall.step(), 1);
+        Dance.due("back", d.hall.back(2), true);
+        Dance.due("step", d.hall.step(), 1);
+        Dance.due("step", d.hall.step(), 1);
+        Dance.due("end", d.hall.step(), 0);
+        Dance.due("turned", d.hall.dancer(7, 3), 2);
+        Dance.due("times", d.hall.times(30, 0, 4), 2);
     }
 
     private static void backToNone() {

@@ -40,6 +40,7 @@ public final class EdgeSearchTest {
         drawOfNone();
         firstOfTheCheapest();
         dearest();
+        priceOfALaterSearch();
         cheapestOfNone();
         foundSteps();
         noneFoundYet();
@@ -88,6 +89,16 @@ public final class EdgeSearchTest {
             + " allow dancer 15 turn; allow dancer 0 left;");
         d.hall.set(1, 8);
         Dance.due("rows of one", d.call("robins north"), 0);
+        d.dueDancer(15, 4, 60, 3, 0);
+        d.hall.mark();
+        Dance.due("the last one turns", d.call("dancer 15 turn"), 0);
+        Dance.due("resolve", d.hall.resolve(12), 1);
+        Dance.due("all change", d.load("form rise = 0 0 any, 4 4 any; figure change on rise counts 1 price 1 = 4 4 0, 0 0 0;"
+            + " allow couple 7 change;"), 0);
+        Dance.due("the last ones change", d.call("couple 7 change"), 0);
+        Dance.due("resolve", d.hall.resolve(12), 2);
+        Dance.due("rows", d.hall.rows(), 2);
+        Dance.due("back", d.hall.back(2), true);
         Dance.due("columns of half", d.call("couple 1 or couple 3 or couple 5 or couple 7 east"), 0);
         Dance.due("columns of a quarter", d.call("couple 2 or couple 3 or couple 6 or couple 7 east"), 0);
         Dance.due("columns of one", d.call("couple 4 or couple 5 or couple 6 or couple 7 east"), 0);
@@ -625,6 +636,33 @@ public final class EdgeSearchTest {
         Dance e = rings(1, 1);
         Dance.due("resolve", e.hall.resolve(12), 1);
         Dance.due("4 figures of 1000", e.hall.cheapest(), 4000);
+    }
+
+    private static void priceOfALaterSearch() {
+        Dance.says("The first of the ROWS with the least price: of the latest resolve");
+        Dance d = Dance.with("allow all right;");
+        Dance.due("right", d.call("all right"), 0);
+        for (int away = 3; away >= 0; away--) {
+            Dance.due("resolve", d.hall.resolve(12), away);
+            Dance.due("rows", d.hall.rows(), 1);
+            Dance.due("cheapest", d.hall.cheapest(), away);
+            Dance.due("its last step", d.hall.found(away - 1), away == 0 ? -1 : 0);
+            Dance.due("behind it", d.hall.found(away), -1);
+            Dance.due("right", d.call("all right"), 0);
+        }
+        Dance.due("more steps", d.load("allow larks right; allow robins right; allow all left;"), 0);
+        Dance.due("set", d.hall.set(0, 4), true);
+        Dance.due("larks alone", d.call("larks right"), 0);
+        Dance.due("all left and robins right", d.hall.resolve(12), 2);
+        Dance.due("rows", d.hall.rows(), 2);
+        Dance.due("cheapest", d.hall.cheapest(), 2);
+        Dance.due("away again", d.call("all turn"), 0);
+        Dance.due("too far", d.hall.resolve(1), -1);
+        Dance.due("turn back", d.call("all turn"), 0);
+        Dance.due("robins, too", d.call("robins right"), 0);
+        Dance.due("all left", d.hall.resolve(12), 1);
+        Dance.due("rows", d.hall.rows(), 1);
+        Dance.due("cheapest", d.hall.cheapest(), 1);
     }
 
     private static void cheapestOfNone() {

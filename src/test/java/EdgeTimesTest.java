@@ -72,6 +72,15 @@ public final class EdgeTimesTest {
         Dance.due("of those who face", d.hall.times(2, 2, 2), -1);
         Dance.due("of those who face", d.hall.times(2, 1, 32), -1);
         Dance.due("the dancers' own set", d.hall.dancer(0, 2), 3);
+        // what was found out about the dancers of this set is nothing of that one's
+        Dance e = Dance.with("part p{if count in pair is 8{dancer 0 meet;}} part q{if count in face is 8{}else{dancer 0 meet;}}"
+            + " part r{if count in box is 4{}else{dancer 0 meet;}}");
+        Dance.due("all are in pairs here", e.call("not in pair hold"), 1);
+        Dance.due("nobody is there", e.hall.times(0, 1, 4), 1);
+        Dance.due("all face there", e.hall.times(1, 1, 4), 1);
+        Dance.due("all are in boxes there", e.hall.times(2, 1, 2), 1);
+        Dance.due("nobody faces here", e.call("in face hold"), 1);
+        Dance.due("nobody is in boxes here", e.call("in box hold"), 1);
     }
 
     /** Larks' facings count the times, in fours; when they tell the number that is due all turn home. */

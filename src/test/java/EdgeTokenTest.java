@@ -11,6 +11,7 @@ public final class EdgeTokenTest {
         firstByteOfAWord();
         laterBytesOfAWord();
         lettersOfAWord();
+        eachLetterOfAWord();
         digitsOfANumber();
         minus();
         signs();
@@ -148,6 +149,19 @@ public final class EdgeTokenTest {
         d.load("form " + Dance.many("q", 24) + " = 0 0 n;");
         Dance.due("told again", d.load("form " + Dance.many("q", 24) + " = 0 0 n;"), -2 - 5);
         Dance.due("fault", d.hall.fault(), 3);
+    }
+
+    private static void eachLetterOfAWord() {
+        Dance.says("1 to 24 bytes: each of them tells a NAME apart");
+        String word = "abcdefghijklmnopqrstuvwx";
+        Dance d = Dance.empty();
+        Dance.due("load", d.load("form " + word + " = 0 0 n;"), 0);
+        for (int i = 0; i < 24; i++) {
+            Dance.due("another letter at " + i, d.named(word.substring(0, i) + "Z" + word.substring(i + 1), 0), -1);
+            Dance.due("no fault", d.hall.fault(), 0);
+            Dance.due("up to " + i, d.named(word.substring(0, i + 1), 0), i == 23 ? 0 : -1);
+        }
+        Dance.due("the same", d.named(word, 0), 0);
     }
 
     private static void digitsOfANumber() {

@@ -15,7 +15,10 @@ public final class EdgeWhoTest {
         anyStaysAny();
         standsInASlot();
         copiesForADancer();
+        lastCopiesForADancer();
+        putLikeTheCopy();
         greedyCopies();
+        greedyCopiesOfTheScope();
         aMultipleOfItsSlots();
         theNextOne();
         noneIfNoOneCan();
@@ -265,6 +268,53 @@ public final class EdgeWhoTest {
         d.dueDancer(1, 4, 4, 3, 0);
     }
 
+    private static void lastCopiesForADancer() {
+        Dance.says("those with slot 1 there, and so on: the last of these, too, ahead of those for another dancer");
+        Dance d = Dance.with("form rl = 0 0 any robin, 0 4 any lark; part p { for not dancer 3 { at rl 1 right; } }");
+        d.hall.set(2, 3);
+        // 0 is with 3 above it, slot 1 turned by 2, so that 4 is left to 5
+        dueMeant(d, "in rl", "0 1 2 3 4 5");
+        dueMeant(d, "at rl 1", "0 2 4");
+        // without 3 it is with 1, slot 1 turned by 3, so that 2 is left alone
+        d.hall.set(2, 2);
+        Dance.due("begin", d.hall.begin(0), true);
+        Dance.due("step", d.hall.step(), 1);
+        dueTurned(d, "at rl 1", "0");
+    }
+
+    private static void putLikeTheCopy() {
+        Dance.says("goes where the slot's TO lies, turned and put like the copy");
+        Dance d = Dance.with("form rl = 0 0 any robin, 4 0 any lark; figure slip on rl counts 1 price 1 = 0 1 1, 4 -2 2;");
+        d.hall.set(1, 3);
+        // turned by 2 and put at the robin: it goes a quarter down, its lark half a step up, ahead of the next row
+        Dance.due("among others", d.call("couple 0 slip"), 0);
+        d.dueDancer(0, 0, 4, 3, 2);
+        d.dueDancer(1, 4, 0, 0, 1);
+        d.dueDancer(2, 0, 8, 1, 0);
+        d.dueDancer(3, 4, 8, 3, 0);
+        d.dueDancer(5, 4, 12, 3, 0);
+    }
+
+    private static void greedyCopiesOfTheScope() {
+        Dance.says("going through the SCOPE's dancers: those of another SCOPE are others, though nobody moved");
+        Dance d = Dance.with("part p { if count in duo is 6 { for larks { if count in duo is 2 { for all { for dancer 0 or dancer 4 {"
+            + " if count in duo is 0 { dancer 0 right; } } } } } } }");
+        d.hall.set(1, 3);
+        Dance.due("begin", d.hall.begin(0), true);
+        Dance.due("step", d.hall.step(), 1);
+        dueTurned(d, "all three", "0");
+        // and when somebody moved, those of the same SCOPE
+        Dance e = Dance.ready();
+        Dance.due("set", e.hall.set(1, 2), true);
+        Dance.due("they face", e.call("in face hold"), 0);
+        Dance.due("they turn", e.call("larks turn"), 0);
+        Dance.due("they do not", e.call("in face hold"), 1);
+        Dance.due("they turn back", e.hall.back(1), true);
+        Dance.due("they face", e.call("in face hold"), 0);
+        Dance.due("another set", e.hall.set(2, 2), true);
+        Dance.due("they face", e.call("at face 0 and dancer 0 hold"), 0);
+    }
+
     private static void greedyCopies() {
         Dance.says("GREEDY COPIES: .. for each that is in none yet the first of the copies for it that fits those .. who are in none yet");
         dueStep("part p { for larks { in duo right; } }", 1, 1, 2, "");
@@ -291,6 +341,11 @@ public final class EdgeWhoTest {
         Dance.due("2 by 2", d.call("couple 0 cross"), 0);
         Dance.due("3 by 2", d.call("couple 0 or dancer 2 cross"), 3);
         Dance.due("1 by 1", d.call("dancer 7 hold"), 0);
+        // a search for one would be too hard, but there is none at once
+        d.hall.set(1, 8);
+        Dance.due("15 by 2", d.call("not dancer 15 cross"), 3);
+        Dance.due("14 by 2", d.call("not (dancer 12 or dancer 15) cross"), 4);
+        Dance.due("13 by 2", d.call("not (dancer 12 or couple 7) cross"), 3);
     }
 
     private static void theNextOne() {
@@ -402,6 +457,12 @@ public final class EdgeWhoTest {
         dueHolds("count all is 63", 1, 32, false);
         dueHolds("count all is 64", 1, 31, false);
         dueHolds("count not dancer 63 is 63", 1, 32, true);
+        dueHolds("not count all is 8", 0, 4, false);
+        dueHolds("not count all is 7", 0, 4, true);
+        dueHolds("home and count all is 8", 0, 4, true);
+        dueHolds("count all is 8 and home", 0, 4, true);
+        dueHolds("count all is 7 or count all is 8", 0, 4, true);
+        dueHolds("count all is 7 or count all is 9", 0, 4, false);
     }
 
     private static void nobodyHasAPartition() {
@@ -415,6 +476,10 @@ public final class EdgeWhoTest {
         dueHolds("forms box all", 1, 2, true);
         dueHolds("forms box all", 1, 3, false);
         dueHolds("forms box all", 1, 32, true);
+        dueHolds("not forms any1 all", 0, 4, false);
+        dueHolds("not forms box all", 0, 4, true);
+        dueHolds("home and (forms any1 all) and count all is 8", 0, 4, true);
+        dueHolds("home and (forms box all) or not home", 0, 4, false);
         // a figure wants somebody
         Dance d = Dance.ready();
         Dance.due("nobody", d.call("not all hold"), 1);
