@@ -20,6 +20,7 @@ public final class EdgeStepTest {
         nobodyMoves();
         greatestOfTheCounts();
         stepsByOne();
+        squared();
         farthest();
         scopeOfACall();
         answersOfACall();
@@ -246,6 +247,37 @@ public final class EdgeStepTest {
         Dance.due("steps", d.hall.about(2), 2);
         Dance.due("one at fault", d.call("dancer 64 hold"), -9);
         Dance.due("steps", d.hall.about(2), 2);
+    }
+
+    private static void squared() {
+        Dance.says("X's keep their order, equal ones stay equal, and become 0, 4, 8 .., so do Y's");
+        Dance d = Dance.with("figure e1 on any1 counts 1 price 1 = 1 0 0; figure e3 on any1 counts 1 price 1 = 3 0 0;"
+            + " figure e4 on any1 counts 1 price 1 = 4 0 0; figure e5 on any1 counts 1 price 1 = 5 0 0;"
+            + " figure n5 on any1 counts 1 price 1 = 0 5 0; figure s32 on any1 counts 1 price 1 = 0 -32 0;");
+        d.hall.set(1, 3);
+        Dance.due("equal ones, a quarter on", d.call("larks e1"), 0);
+        d.dueDancer(4, 0, 8, 1, 0);
+        d.dueDancer(5, 4, 8, 3, 0);
+        Dance.due("up to the next one, less a quarter", d.call("dancer 0 e3"), 0);
+        d.dueDancer(2, 0, 4, 1, 0);
+        d.dueDancer(0, 4, 0, 1, 0);
+        d.dueDancer(1, 8, 0, 3, 0);
+        d.hall.set(1, 3);
+        Dance.due("onto the next one", d.call("dancer 0 e4 & dancer 1 n5"), 0);
+        d.dueDancer(0, 4, 0, 1, 0);
+        d.dueDancer(1, 4, 8, 3, 0);
+        d.dueDancer(2, 0, 4, 1, 0);
+        d.dueDancer(4, 0, 12, 1, 0);
+        Dance.due("beyond the next one, a quarter", d.call("dancer 2 e5"), 0);
+        d.dueDancer(4, 0, 12, 1, 0);
+        d.dueDancer(0, 4, 0, 1, 0);
+        d.dueDancer(2, 8, 4, 1, 0);
+        Dance.due("below all", d.call("dancer 4 or dancer 2 s32"), 0);
+        d.dueDancer(2, 8, 0, 1, 0);
+        d.dueDancer(4, 0, 4, 1, 0);
+        d.dueDancer(0, 4, 8, 1, 0);
+        d.dueDancer(1, 4, 16, 3, 0);
+        d.dueDancer(5, 4, 20, 3, 0);
     }
 
     private static void farthest() {

@@ -14,6 +14,7 @@ public final class EdgeWhoTest {
         placesOfACopy();
         anyStaysAny();
         standsInASlot();
+        fitsInEachSlot();
         copiesForADancer();
         lastCopiesForADancer();
         putLikeTheCopy();
@@ -242,6 +243,19 @@ public final class EdgeWhoTest {
         Dance.due("one faces down", d.call("dancer 1 turn"), 0);
         Dance.due("in near", d.call("in near hold"), 1);
         Dance.due("in against", d.call("in against hold"), 0);
+    }
+
+    private static void fitsInEachSlot() {
+        Dance.says("A copy FITS some dancers if in each slot one of them stands.");
+        String eight = "form eight = 0 0 any, 4 0 any, 0 4 any, 4 4 any, 0 8 any, 4 8 any, 0 12 any, 4 12 any; ";
+        dueStep(eight + "part p { for all { in eight right; } }", 1, 4, 1, "0 1 2 3 4 5 6 7");
+        // the last slot empty, the first one, one in the midst
+        dueStep(eight + "part p { for not dancer 7 { in eight right; } }", 1, 4, 2, "");
+        dueStep(eight + "part p { for not dancer 0 { in eight right; } }", 1, 4, 2, "");
+        dueStep(eight + "part p { for not dancer 3 { in eight right; } }", 1, 4, 2, "");
+        // one too many is in none
+        dueStep(eight + "part p { for not dancer 9 { in eight right; } }", 1, 5, 1, "0 1 2 3 4 5 6 7");
+        dueStep("part p { for dancer 5 { in any1 right; } }", 1, 5, 1, "5");
     }
 
     private static void copiesForADancer() {
