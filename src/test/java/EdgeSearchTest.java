@@ -32,6 +32,7 @@ public final class EdgeSearchTest {
         countOfRows();
         emptyRow();
         mostRows();
+        all32Allows();
         orderOfRows();
         noSuchRow();
         refusedRow();
@@ -494,6 +495,29 @@ public final class EdgeSearchTest {
         }
         Dance.due("none below 0", d.hall.row(-1), false);
         Dance.due("none below 0", d.hall.row(LEAST), false);
+    }
+
+    private static void all32Allows() {
+        Dance.says("Rows of allowed steps (numbered from 0, as books tell them): 32 at most");
+        Dance d = Dance.with(Dance.many("allow larks right; allow robins right;", 16));
+        Dance.due("left", d.call("all left"), 0);
+        Dance.due("resolve", d.hall.resolve(12), 2);
+        // one of 16 for larks, one of 16 for robins, in either order
+        Dance.due("rows", d.hall.rows(), 512);
+        Dance.due("seen", d.hall.about(11), 6);
+        int[][] due = {{0, 0, 1}, {15, 0, 31}, {16, 1, 0}, {31, 1, 30}, {511, 31, 30}};
+        for (int[] row : due) {
+            Dance.due("row(" + row[0] + ")", d.hall.row(row[0]), true);
+            Dance.due("step 0", d.hall.found(0), row[1]);
+            Dance.due("step 1", d.hall.found(1), row[2]);
+        }
+        Dance.due("row(512)", d.hall.row(512), false);
+        Dance.due("cheapest", d.hall.cheapest(), 2);
+        Dance.due("step 0", d.hall.found(0), 0);
+        Dance.due("draw", d.hall.draw(-1, -1), true);
+        Dance.due("follow", d.hall.follow(), 0);
+        Dance.due("follow", d.hall.follow(), 0);
+        Dance.due("home", d.hall.about(4), 1);
     }
 
     private static void orderOfRows() {

@@ -294,6 +294,16 @@ public final class EdgeWhoTest {
         Dance.due("begin", d.hall.begin(0), true);
         Dance.due("step", d.hall.step(), 1);
         dueTurned(d, "at rl 1", "0");
+        // there are no copies for a dancer but those: 0 faces elsewhere, and is in none with 4 and 6 above it
+        Dance e = Dance.with("form above = 0 12 n, 0 8 n; part p { for larks { in above turn; } }");
+        e.hall.set(1, 4);
+        Dance.due("all larks but the first face up", e.call("larks and not dancer 0 left"), 0);
+        Dance.due("begin", e.hall.begin(0), true);
+        Dance.due("step", e.hall.step(), 1);
+        int[] due = {0, 1, 1, -1};
+        for (int i = 0; i < 4; i++) {
+            Dance.due("lark " + i, e.hall.dancer(2 * i, 3), due[i]);
+        }
     }
 
     private static void putLikeTheCopy() {
